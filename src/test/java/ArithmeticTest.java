@@ -1,21 +1,7 @@
 /** What each kind of operator makes of its sources (promises 10 and 11), and promise 16: scaled. */
-public final class ArithmeticTest {
-    private static final int CONSTANT = 0;
-    private static final int INPUT = 1;
-    private static final int MADE = 2;
-    private static final int DENSE = 0;
-    private static final int ADD = 1;
-    private static final int MUL = 2;
-    private static final int GREATEST = 3;
-    private static final int MEAN = 4;
-    private static final int LOOK = 5;
-    private static final int JOIN = 6;
-    private static final int TURN = 7;
-
+public final class ArithmeticTest extends Terms {
     private static final int NEARLY_ONE = 2147483647;
     private static final int HALF = 1073741824;
-
-    private static final Due due = new Due();
 
     public static void main(String[] args) {
         promise16Scaled();
@@ -80,7 +66,6 @@ public final class ArithmeticTest {
         x.prepare();
         due.is("prepared", x.scaled(7, 100), 50);
     }
-
 
     /** A network with one operator to come, whose result is kept. */
     private static final class One {

@@ -1,19 +1,5 @@
 /** Promises 1 to 6: a new object, and the calls that describe a network; promise 17: count. */
-public final class DescribeTest {
-    private static final int CONSTANT = 0;
-    private static final int INPUT = 1;
-    private static final int MADE = 2;
-    private static final int ADD = 1;
-    private static final int TURN = 7;
-
-    private static final int DONE = ArenaNetwork.DONE;
-    private static final int REFUSED = ArenaNetwork.REFUSED;
-    private static final int FULL = ArenaNetwork.FULL;
-    private static final int CLOSED = ArenaNetwork.CLOSED;
-    private static final int NONE = ArenaNetwork.NONE;
-
-    private static final Due due = new Due();
-
+public final class DescribeTest extends Terms {
     public static void main(String[] args) {
         promise1NewObject();
         promise2Tensor();

@@ -1,25 +1,7 @@
 /** Promises 7, 8 and 13 to 15: prepare with its faults, lives and places, and reopen. */
-public final class PrepareTest {
-    private static final int CONSTANT = 0;
-    private static final int INPUT = 1;
-    private static final int MADE = 2;
-    private static final int DENSE = 0;
-    private static final int ADD = 1;
-    private static final int MUL = 2;
-    private static final int GREATEST = 3;
-    private static final int MEAN = 4;
-    private static final int LOOK = 5;
-    private static final int JOIN = 6;
-    private static final int TURN = 7;
-
-    private static final int REFUSED = ArenaNetwork.REFUSED;
-    private static final int CLOSED = ArenaNetwork.CLOSED;
-    private static final int NONE = ArenaNetwork.NONE;
-
+public final class PrepareTest extends Terms {
     /** An operator's two sources are one tensor. */
     private static final int[] SAME = null;
-
-    private static final Due due = new Due();
 
     public static void main(String[] args) {
         promise7BadResult();
@@ -214,6 +196,13 @@ public final class PrepareTest {
         x.keep(1, true);
         x.operator(ADD, 0, 0, 1, 0);
         due.is("kept and a result", x.prepare(), 8);
+        x = network(made(4, 0), input(4, 0));
+        x.keep(0, true);
+        due.is("the first tensor", x.prepare(), -1000);
+        x = network(input(4, 0), made(4, 0), constant(4, 0), made(4, 0));
+        x.operator(ADD, 0, 0, 1, 0);
+        x.keep(3, true);
+        due.is("the last tensor", x.prepare(), -1000);
     }
 
     private static void promise7ChangesNothingWhenRefused() {
@@ -244,7 +233,7 @@ public final class PrepareTest {
         due.is("prepare", x.prepare(), 6);
         x.start();
         x.step();
-        due.is("prepared", x.reopen(), ArenaNetwork.DONE);
+        due.is("prepared", x.reopen(), DONE);
         due.is("reopened already", x.reopen(), CLOSED);
         due.is("no run", x.count(3), -1);
         due.is("step", x.step(), CLOSED);
@@ -318,6 +307,10 @@ public final class PrepareTest {
         x.keep(1, true);
         due.is("a kept one meets all later", x.prepare(), 12);
         offsets(x, 0, 4, 0, 8);
+        x.reopen();
+        x.keep(1, false);
+        due.is("no more kept, the arena is short again", x.prepare(), 8);
+        offsets(x, 0, 4, 0, 4);
         x = network(input(4, 0), input(4, 0), made(4, 0));
         x.operator(TURN, 1, 1, 2, 0);
         due.is("an input without use lives at -1 alone", x.prepare(), 8);

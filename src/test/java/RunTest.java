@@ -1,15 +1,5 @@
 /** Promises 9 to 12: a run, and what can be read of it. */
-public final class RunTest {
-    private static final int CONSTANT = 0;
-    private static final int INPUT = 1;
-    private static final int MADE = 2;
-    private static final int TURN = 7;
-
-    private static final int CLOSED = ArenaNetwork.CLOSED;
-    private static final int NONE = ArenaNetwork.NONE;
-
-    private static final Due due = new Due();
-
+public final class RunTest extends Terms {
     public static void main(String[] args) {
         promise9Start();
         promise9StartTakesInputs();
