@@ -1,188 +1,350 @@
-/** Promises 9 to 12: a run, and what can be read of it. */
+/** Promises 9 to 12: start, step, finish, and the cells of a run as long as they live. */
 public final class RunTest extends Terms {
     public static void main(String[] args) {
-        promise9Start();
-        promise9StartTakesInputs();
-        promise9WithoutOperators();
-        promise10Step();
-        promise11Finish();
-        promise12CellsWhileTheyLive();
-        promise12Constants();
-        promise12OutOfRange();
+        startWhenARunIsUnderWay();
+        startTakesTheInputsAsTheyAreSetNow();
+        startWhenNotPrepared();
+        startAnswersTheNumberOfOperators();
+        stepDoesTheNextOperator();
+        stepWhenNotPreparedOrNoRun();
+        stepWhenAllAreDone();
+        finishDoesWhatIsNotDone();
+        finishWhenNotPreparedOrNoRun();
+        runWithoutOperators();
+        cellOfAConstant();
+        cellWhenItsLifeBeginsBelowK();
+        cellWhenItsLifeEndsAtKMinus1OrLater();
+        cellOfKeptOnes();
+        cellWithoutUse();
+        cellWithoutARun();
+        cellOutOfRange();
+        cellWithoutLife();
+        sharedPlacesKeepTheirCells();
+        aRunIsOfTheNetworkPreparedLast();
         due.end();
     }
 
-    /** Input 0 turned into 1, that into 2, that into 3, and a constant 4; all of two cells. */
-    private static ArenaNetwork chain() {
-        ArenaNetwork x = new ArenaNetwork();
-        x.tensor(INPUT, 2, 0);
-        for (int i = 0; i < 3; i++) {
-            x.tensor(MADE, 2, 0);
-            x.operator(TURN, i, i, i + 1, 0);
-        }
-        x.tensor(CONSTANT, 2, 0);
-        x.set(0, 0, 10);
-        x.set(0, 1, 20);
+    /** A chain of three operators on two cells, 10 and 20. */
+    private static ArenaNetwork three() {
+        ArenaNetwork x = chain(3, 2);
+        setCells(x, 0, 10, 20);
         return x;
     }
 
-    private static void promise9Start() {
-        due.part("promise 9");
-        ArenaNetwork x = chain();
-        due.is("in the making", x.start(), CLOSED);
-        due.is("no run", x.count(3), -1);
+    private static ArenaNetwork prepared(ArenaNetwork x) {
         x.prepare();
-        due.is("prepared alone is no run", x.count(3), -1);
+        return x;
+    }
+
+    private static void startWhenARunIsUnderWay() {
+        due.part("promise 9: begins a run, also when one is under way");
+        ArenaNetwork x = prepared(three());
         due.is("start", x.start(), 3);
         due.is("none done", x.count(3), 0);
         x.step();
         x.step();
-        due.is("two done", x.count(3), 2);
-        due.is("start anew", x.start(), 3);
-        due.is("none done anew", x.count(3), 0);
+        due.is("start when two are done", x.start(), 3);
+        due.is("none done", x.count(3), 0);
         due.is("the first result is gone", x.cell(1, 0), NONE);
-        due.is("the first operator anew", x.step(), 0);
+        due.is("the second result is gone", x.cell(2, 0), NONE);
+        due.is("the input is there", x.cell(0, 0), 10);
+        due.is("the first operator again", x.step(), 0);
         x.finish();
-        due.is("start after the end", x.start(), 3);
+        due.is("start when all are done", x.start(), 3);
         due.is("all to be done", x.finish(), 3);
+        x.start();
+        due.is("start when none is done", x.start(), 3);
+        due.is("all to be done", x.finish(), 3);
+    }
+
+    private static void startTakesTheInputsAsTheyAreSetNow() {
+        due.part("promise 9: the inputs' cells are taken as they are set now");
+        ArenaNetwork x = prepared(three());
+        x.set(0, 0, 11);
+        x.start();
+        cellsAre("set before", x, 0, 11, 20);
+        x.set(0, 0, 12);
+        x.set(0, 1, 13);
+        cellsAre("set behind it", x, 0, 11, 20);
+        x.step();
+        cellsAre("the operator takes what start took", x, 1, 20, 11);
+        x.set(0, 1, -128);
+        x.start();
+        cellsAre("the last values set", x, 0, 12, -128);
+        x.step();
+        cellsAre("the operator takes them", x, 1, -128, 12);
+    }
+
+    private static void startWhenNotPrepared() {
+        due.part("promise 9: not PREPARED: CLOSED");
+        ArenaNetwork x = three();
+        due.is("in the making", x.start(), CLOSED);
+        due.is("no run", x.count(3), -1);
+        x.prepare();
+        x.start();
         x.reopen();
         due.is("reopened", x.start(), CLOSED);
+        due.is("no run", x.count(3), -1);
     }
 
-    private static void promise9StartTakesInputs() {
-        due.part("promise 9, inputs");
-        ArenaNetwork x = chain();
-        x.prepare();
-        x.start();
-        x.set(0, 0, 30);
-        due.is("as taken", x.cell(0, 0), 10);
-        x.step();
-        due.is("the operator takes it so too", x.cell(1, 1), 10);
-        x.start();
-        due.is("taken anew", x.cell(0, 0), 30);
-        due.is("what was set long ago", x.cell(0, 1), 20);
-        x.step();
-        due.is("the operator takes it anew", x.cell(1, 1), 30);
+    private static void startAnswersTheNumberOfOperators() {
+        due.part("promise 9: answers the number of operators");
+        due.is("0", prepared(chain(0, 1)).start(), 0);
+        due.is("1", prepared(chain(1, 1)).start(), 1);
+        due.is("14", prepared(chain(14, 1)).start(), 14);
     }
 
-    private static void promise9WithoutOperators() {
-        due.part("promise 9, no operators");
-        ArenaNetwork x = new ArenaNetwork();
+    private static void stepDoesTheNextOperator() {
+        due.part("promise 10: does the next operator of the run, answers its number");
+        ArenaNetwork x = prepared(chain(14, 2));
+        setCells(x, 0, 10, 20);
+        x.start();
+        for (int i = 0; i < 14; i++) {
+            due.is("step", x.step(), i);
+            due.is("done", x.count(3), i + 1);
+            due.is("the next is not done", x.cell(i + 2, 0), NONE);
+            cellsAre("its result", x, i + 1, i % 2 == 0 ? 20 : 10, i % 2 == 0 ? 10 : 20);
+        }
+    }
+
+    private static void stepWhenNotPreparedOrNoRun() {
+        due.part("promise 10: not PREPARED, no run: CLOSED");
+        ArenaNetwork x = three();
+        due.is("in the making", x.step(), CLOSED);
         x.prepare();
-        due.is("step without a run", x.step(), CLOSED);
-        due.is("finish without a run", x.finish(), CLOSED);
+        due.is("no run", x.step(), CLOSED);
+        due.is("still no run", x.count(3), -1);
+        x.start();
+        x.reopen();
+        due.is("reopened", x.step(), CLOSED);
+        x.prepare();
+        due.is("prepared again", x.step(), CLOSED);
+    }
+
+    private static void stepWhenAllAreDone() {
+        due.part("promise 10: all are done: CLOSED");
+        ArenaNetwork x = prepared(three());
+        x.start();
+        for (int i = 0; i < 3; i++) {
+            due.is("step", x.step(), i);
+        }
+        due.is("one more", x.step(), CLOSED);
+        due.is("and one more", x.step(), CLOSED);
+        due.is("three are done", x.count(3), 3);
+        cellsAre("the last result", x, 3, 20, 10);
+        x.start();
+        x.finish();
+        due.is("behind finish", x.step(), CLOSED);
+    }
+
+    private static void finishDoesWhatIsNotDone() {
+        due.part("promise 11: does all operators that are not done, answers how many");
+        for (int steps = 0; steps <= 3; steps++) {
+            ArenaNetwork x = prepared(three());
+            x.start();
+            for (int i = 0; i < steps; i++) {
+                x.step();
+            }
+            due.is("finish behind " + steps, x.finish(), 3 - steps);
+            due.is("done", x.count(3), 3);
+            cellsAre("the last result", x, 3, 20, 10);
+            due.is("finish again", x.finish(), 0);
+            due.is("still done", x.count(3), 3);
+            cellsAre("the last result again", x, 3, 20, 10);
+        }
+        ArenaNetwork x = prepared(chain(14, 1));
+        x.start();
+        due.is("14", x.finish(), 14);
+    }
+
+    private static void finishWhenNotPreparedOrNoRun() {
+        due.part("promise 11: not PREPARED or no run: CLOSED");
+        ArenaNetwork x = three();
+        due.is("in the making", x.finish(), CLOSED);
+        x.prepare();
+        due.is("no run", x.finish(), CLOSED);
+        due.is("still no run", x.count(3), -1);
+        x.start();
+        x.reopen();
+        due.is("reopened", x.finish(), CLOSED);
+        x.prepare();
+        due.is("prepared again", x.finish(), CLOSED);
+    }
+
+    private static void runWithoutOperators() {
+        due.part("a run without operators");
+        ArenaNetwork x = network(input(1, 0), input(1, 0));
+        x.set(0, 0, 5);
+        x.keep(1, true);
+        x.prepare();
         due.is("start", x.start(), 0);
         due.is("step", x.step(), CLOSED);
         due.is("finish", x.finish(), 0);
         due.is("done", x.count(3), 0);
+        due.is("an input", x.cell(0, 0), 5);
+        due.is("a kept input", x.cell(1, 0), 0);
     }
 
-    private static void promise10Step() {
-        due.part("promise 10");
-        ArenaNetwork x = chain();
-        due.is("in the making", x.step(), CLOSED);
+    private static void cellOfAConstant() {
+        due.part("promise 12: a constant's cell, at any time");
+        ArenaNetwork x = three();
+        x.tensor(CONSTANT, 2, 0);
+        x.set(4, 1, -7);
+        cellsAre("in the making", x, 4, 0, -7);
         x.prepare();
-        due.is("no run", x.step(), CLOSED);
+        cellsAre("prepared", x, 4, 0, -7);
         x.start();
-        for (int i = 0; i < 3; i++) {
-            due.is("step", x.step(), i);
-            due.is("done", x.count(3), i + 1);
-            due.is("its first cell", x.cell(i + 1, 0), i % 2 == 0 ? 20 : 10);
-            due.is("its second cell", x.cell(i + 1, 1), i % 2 == 0 ? 10 : 20);
-        }
-        due.is("all done", x.step(), CLOSED);
-        due.is("still all done", x.count(3), 3);
-        due.is("the last result is still there", x.cell(3, 0), 20);
+        cellsAre("in a run", x, 4, 0, -7);
+        x.finish();
+        cellsAre("when all are done", x, 4, 0, -7);
+        x.reopen();
+        cellsAre("reopened", x, 4, 0, -7);
     }
 
-    private static void promise11Finish() {
-        due.part("promise 11");
-        ArenaNetwork x = chain();
-        due.is("in the making", x.finish(), CLOSED);
+    /** Which of the tensors have cells when 0, 1, .. operators are done: + or - for each. */
+    private static void living(ArenaNetwork x, String... wanted) {
         x.prepare();
-        due.is("no run", x.finish(), CLOSED);
         x.start();
-        due.is("all", x.finish(), 3);
-        due.is("the last result", x.cell(3, 1), 10);
-        due.is("none left", x.finish(), 0);
-        x.start();
-        x.step();
-        due.is("the other two", x.finish(), 2);
-        due.is("done", x.count(3), 3);
-        due.is("the last result again", x.cell(3, 1), 10);
-        due.is("no step left", x.step(), CLOSED);
-    }
-
-    /** Which of the tensors 0 .. 3 have cells, as one text. */
-    private static String living(ArenaNetwork x) {
-        StringBuilder text = new StringBuilder();
-        for (int t = 0; t < 4; t++) {
-            text.append(x.cell(t, 0) == NONE ? '-' : '+').append(x.cell(t, 1) == NONE ? '-' : '+');
-        }
-        return text.toString();
-    }
-
-    private static void livingInARun(ArenaNetwork x, String... wanted) {
-        x.start();
-        for (String each : wanted) {
-            String got = living(x);
-            due.is("living " + got + " where " + each + " is due", got.equals(each) ? 1 : 0, 1);
+        for (int k = 0; k < wanted.length; k++) {
+            for (int t = 0; t < wanted[k].length(); t++) {
+                int there = x.cell(t, 0) == NONE ? 0 : 1;
+                due.is(k + " done, tensor " + t + " is there", there, wanted[k].charAt(t) == '+' ? 1 : 0);
+            }
             x.step();
         }
     }
 
-    private static void promise12CellsWhileTheyLive() {
-        due.part("promise 12");
-        ArenaNetwork x = chain();
-        due.is("in the making", x.cell(0, 0), NONE);
-        x.prepare();
-        due.is("without a run", x.cell(0, 0), NONE);
-        livingInARun(x, "++------", "++++----", "--++++--", "----++++");
-        x.reopen();
+    private static void cellWhenItsLifeBeginsBelowK() {
+        due.part("promise 12: if its LIFE begins below k");
+        ArenaNetwork x = three();
+        for (int t = 0; t < 4; t++) {
+            x.keep(t, true);
+        }
+        living(x, "+---", "++--", "+++-", "++++");
+    }
+
+    private static void cellWhenItsLifeEndsAtKMinus1OrLater() {
+        due.part("promise 12: and ends at k - 1 or later");
+        living(three(), "+---", "++--", "-++-", "--++");
+        ArenaNetwork x = network(input(1, 0), made(1, 0), made(1, 0), made(1, 0));
+        x.operator(TURN, 0, 0, 1, 0);
+        x.operator(TURN, 0, 0, 2, 0);
+        x.operator(TURN, 1, 1, 3, 0);
+        living(x, "+---", "++--", "+++-", "-+-+");
+    }
+
+    private static void cellOfKeptOnes() {
+        due.part("promise 12: a KEPT one lives to the end of the run");
+        ArenaNetwork x = three();
         x.keep(0, true);
         x.keep(2, true);
-        x.prepare();
-        livingInARun(x, "++------", "++++----", "++++++--", "++--++++");
+        living(x, "+---", "++--", "+++-", "+-++");
+        cellsAre("the input", x, 0, 10, 20);
+        cellsAre("the result", x, 2, 10, 20);
+    }
 
-        // An input and a result that no operator has as a source.
-        x = new ArenaNetwork();
-        x.tensor(INPUT, 2, 0);
-        x.tensor(INPUT, 2, 0);
-        x.tensor(MADE, 2, 0);
-        x.tensor(MADE, 2, 0);
+    private static void cellWithoutUse() {
+        due.part("promise 12: an input or result that is no source");
+        ArenaNetwork x = network(input(1, 0), input(1, 0), made(1, 0), made(1, 0));
         x.operator(TURN, 0, 0, 2, 0);
         x.operator(TURN, 0, 0, 3, 0);
-        x.prepare();
-        livingInARun(x, "++++----", "++--++--", "++----++");
+        living(x, "++--", "+-+-", "+--+");
     }
 
-    private static void promise12Constants() {
-        due.part("promise 12, constants");
-        ArenaNetwork x = chain();
-        x.set(4, 1, -7);
-        due.is("in the making", x.cell(4, 1), -7);
+    private static void cellWithoutARun() {
+        due.part("promise 12: NONE without a run");
+        ArenaNetwork x = three();
+        x.keep(0, true);
+        due.is("in the making", x.cell(0, 0), NONE);
         x.prepare();
-        due.is("prepared", x.cell(4, 1), -7);
+        due.is("prepared", x.cell(0, 0), NONE);
         x.start();
         x.finish();
-        due.is("after a run", x.cell(4, 1), -7);
-        due.is("its other cell", x.cell(4, 0), 0);
+        due.is("in a run", x.cell(0, 0), 10);
+        x.reopen();
+        due.is("reopened", x.cell(0, 0), NONE);
+        due.is("reopened, a result", x.cell(3, 0), NONE);
+        x.prepare();
+        due.is("prepared again", x.cell(0, 0), NONE);
+        due.is("prepared again, a result", x.cell(3, 0), NONE);
     }
 
-    private static void promise12OutOfRange() {
-        due.part("promise 12, out of range");
-        ArenaNetwork x = chain();
-        x.tensor(MADE, 2, 0);
+    private static void cellOutOfRange() {
+        due.part("promise 12: NONE for numbers out of range");
+        ArenaNetwork x = network(constant(64, 0), input(16, 0), made(16, 0));
+        x.operator(TURN, 1, 1, 2, 0);
+        cellsOutOfRange(x);
         x.prepare();
         x.start();
         x.step();
-        due.is("tensor -1", x.cell(-1, 0), NONE);
-        due.is("tensor 6", x.cell(6, 0), NONE);
-        due.is("a made one without life", x.cell(5, 0), NONE);
-        for (int tensor = 0; tensor < 5; tensor++) {
-            due.is("index -1", x.cell(tensor, -1), NONE);
-            due.is("index 2", x.cell(tensor, 2), NONE);
+        cellsOutOfRange(x);
+        due.is("a constant's last", x.cell(0, 63), 0);
+        due.is("an input's last", x.cell(1, 15), 0);
+        due.is("a result's last", x.cell(2, 15), 0);
+    }
+
+    private static void cellsOutOfRange(ArenaNetwork x) {
+        int[] tensors = {-1, 3, 20, LEAST_INT, GREATEST_INT};
+        for (int tensor : tensors) {
+            due.is("tensor " + tensor, x.cell(tensor, 0), NONE);
         }
-        due.is("far out", x.cell(Integer.MAX_VALUE, Integer.MIN_VALUE), NONE);
+        int[] lengths = {64, 16, 16};
+        for (int t = 0; t < 3; t++) {
+            int[] indices = {-1, lengths[t], LEAST_INT, GREATEST_INT};
+            for (int index : indices) {
+                due.is("tensor " + t + ", index " + index, x.cell(t, index), NONE);
+            }
+        }
+    }
+
+    private static void cellWithoutLife() {
+        due.part("promise 12: NONE for a made one without LIFE");
+        ArenaNetwork x = three();
+        x.tensor(MADE, 2, 0);
+        x.prepare();
+        x.start();
+        due.is("at the start", x.cell(4, 0), NONE);
+        x.finish();
+        due.is("at the end", x.cell(4, 0), NONE);
+    }
+
+    private static void sharedPlacesKeepTheirCells() {
+        due.part("tensors that share cells of the ARENA one after another");
+        ArenaNetwork x = prepared(three());
+        due.is("0 and 2 share", x.offset(2), x.offset(0));
+        due.is("1 and 3 share", x.offset(3), x.offset(1));
+        for (int run = 0; run < 2; run++) {
+            x.start();
+            cellsAre("the input", x, 0, 10, 20);
+            x.step();
+            cellsAre("the first result", x, 1, 20, 10);
+            x.step();
+            cellsAre("the second result", x, 2, 10, 20);
+            cellsAre("the first result, a source still", x, 1, 20, 10);
+            x.step();
+            cellsAre("the third result", x, 3, 20, 10);
+        }
+    }
+
+    private static void aRunIsOfTheNetworkPreparedLast() {
+        due.part("a run behind changes of a reopened network");
+        ArenaNetwork x = network(input(1, 0), constant(1, 0), made(1, 0), made(1, 0));
+        x.set(0, 0, 20);
+        x.set(1, 0, 2);
+        x.operator(MUL, 0, 1, 2, 0);
+        x.prepare();
+        x.start();
+        x.finish();
+        due.is("half of 20 * 2", x.cell(2, 0), 20);
+        x.reopen();
+        x.set(1, 0, 3);
+        x.scale(0, WHOLE, 0);
+        x.operator(ADD, 2, 2, 3, 1);
+        x.prepare();
+        due.is("start", x.start(), 2);
+        x.step();
+        due.is("20 * 3", x.cell(2, 0), 60);
+        x.step();
+        due.is("half of 60 + 60", x.cell(3, 0), 60);
     }
 }
