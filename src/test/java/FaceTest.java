@@ -2,11 +2,16 @@ import java.lang.reflect.Constructor;
 import java.lang.reflect.Field;
 import java.lang.reflect.Method;
 import java.lang.reflect.Modifier;
+import java.util.ArrayList;
 import java.util.Arrays;
+import java.util.List;
 import java.util.Set;
 import java.util.TreeSet;
 
-/** The public face: the document's constants, constructor and methods, and nothing else. */
+/**
+ * The public face: the document's constants, constructor and methods, and nothing else; and what
+ * LANGUAGE.md asks of the members behind it.
+ */
 public final class FaceTest {
     private static final String[] METHODS = {
         "tensor(int,int,int)", "set(int,int,int)", "scale(int,int,int)",
@@ -24,6 +29,9 @@ public final class FaceTest {
         classAndConstructor();
         visibleMethods();
         visibleFields();
+        hiddenNames();
+        classesInside();
+        staticFields();
         due.end();
     }
 
@@ -64,6 +72,42 @@ public final class FaceTest {
             }
         }
         sameNames("fields", visible, CONSTANTS);
+    }
+
+    private static void hiddenNames() {
+        Set<String> shown = new TreeSet<>();
+        for (String method : METHODS) {
+            shown.add(method.substring(0, method.indexOf('(')));
+        }
+        for (Class<?> owner : ownClasses()) {
+            for (Method m : owner.getDeclaredMethods()) {
+                boolean clashes = Modifier.isPrivate(m.getModifiers()) && shown.contains(m.getName());
+                due.is("private " + m.getName() + " bears a public name", clashes ? 1 : 0, 0);
+            }
+        }
+    }
+
+    private static void classesInside() {
+        for (Class<?> inside : ArenaNetwork.class.getDeclaredClasses()) {
+            int modifiers = inside.getModifiers();
+            due.is(inside.getName() + " is static", modifiers & Modifier.STATIC, Modifier.STATIC);
+            due.is(inside.getName() + " is hidden", modifiers & (Modifier.PUBLIC | Modifier.PROTECTED), 0);
+        }
+    }
+
+    private static void staticFields() {
+        for (Class<?> owner : ownClasses()) {
+            for (Field f : owner.getDeclaredFields()) {
+                boolean changes = Modifier.isStatic(f.getModifiers()) && !Modifier.isFinal(f.getModifiers());
+                due.is(f.getName() + " is static and not final", changes ? 1 : 0, 0);
+            }
+        }
+    }
+
+    private static List<Class<?>> ownClasses() {
+        List<Class<?>> classes = new ArrayList<>(Arrays.asList(ArenaNetwork.class.getDeclaredClasses()));
+        classes.add(ArenaNetwork.class);
+        return classes;
     }
 
     private static String signature(Method m) {
